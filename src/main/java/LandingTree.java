@@ -19,6 +19,7 @@ public final class LandingTree {
     private static final int MOST_ASKED = 3;
     private static final int MOST_DRAWS = 18;
     private static final int NEVER = 99;
+    // What calls tell behind NONE, as the document numbers it: nobody, by none, no CARD; nothing on it, nobody comes
     private static final int NOT_SO = -2;
     private static final int NOT_EVEN_SO = -3;
     private static final long NO_POT = -1000000000000L;
@@ -28,7 +29,7 @@ public final class LandingTree {
     private final Landing trial = new Landing();
     private boolean isKept;
     private final Tape tape = new Tape();
-    private final Book book = new Book();
+    private final Book book = new Book(tape);
     private final Chances chances = new Chances();
     private final Week search = new Week();
     private final Rota roster = new Rota();
@@ -91,7 +92,7 @@ public final class LandingTree {
         if (!isWithin(n, 1, Text.MOST_BYTES) || n > tape.length) {
             return NONE;
         }
-        int answer = book.writeLaw(tape, n);
+        int answer = book.writeLaw(n);
         tape.length = 0;
         return answer;
     }
@@ -100,7 +101,7 @@ public final class LandingTree {
         if (!isPlace(k, RULES) || !isWithin(n, 1, Text.MOST_BYTES) || n > tape.length) {
             return NONE;
         }
-        int answer = book.writeRule(k, tape, n);
+        int answer = book.writeRule(k, n);
         tape.length = 0;
         return answer;
     }
@@ -1022,34 +1023,43 @@ public final class LandingTree {
         static final int MOST_OPEN = 6;
         static final int MOST_DIGITS = 5;
 
-        private Tape tape;
-        private Text into;
+        private final Tape tape;
+        private Text into = new Text();
         private int at;
         private int end;
         private int open;
         private int fault;
 
+        Reader(Tape tape) {
+            this.tape = tape;
+        }
+
         /** How many CLAUSES, or the FAULT. */
-        int read(Tape from, int n, String kinds, Text text) {
-            tape = from;
-            into = text;
+        int read(int n, String kinds) {
             at = 0;
             end = n;
             open = 0;
             fault = 0;
-            text.empty();
+            into.empty();
             for (int i = 0; i <= Text.MOST_CLAUSES; i++) {
                 if (!clause(kinds)) {
                     return fault;
                 }
                 if (at >= end) {
-                    return text.clauses;
+                    return into.clauses;
                 }
                 if (!sign(';')) {
                     return fault;
                 }
             }
             return fault;
+        }
+
+        /** Hands out what was read, and takes a TEXT that is not needed any more to read the next one into. */
+        Text swap(Text old) {
+            Text is = into;
+            into = old;
+            return is;
         }
 
         private int peek() {
@@ -1404,35 +1414,32 @@ public final class LandingTree {
         static final int MOST_WORTH = 999;
 
         Text law = new Text();
-        private Text spare = new Text();
         final Text[] rules = new Text[RULES];
         final int[] costs = new int[6];
         final int[] worths = new int[6];
         final Asker asker = new Asker();
-        private final Reader reader = new Reader();
+        private final Reader reader;
 
-        Book() {
+        Book(Tape tape) {
+            reader = new Reader(tape);
             for (int k = 0; k < RULES; k++) {
                 rules[k] = new Text();
             }
         }
 
-        int writeLaw(Tape tape, int n) {
-            int answer = reader.read(tape, n, "ehcb", spare);
+        /** The LAW, and the RULES, stay as they are where there is a FAULT. */
+        int writeLaw(int n) {
+            int answer = reader.read(n, "ehcb");
             if (answer > 0) {
-                Text before = law;
-                law = spare;
-                spare = before;
+                law = reader.swap(law);
             }
             return answer;
         }
 
-        int writeRule(int k, Tape tape, int n) {
-            int answer = reader.read(tape, n, "g", spare);
+        int writeRule(int k, int n) {
+            int answer = reader.read(n, "g");
             if (answer > 0) {
-                Text before = rules[k];
-                rules[k] = spare;
-                spare = before;
+                rules[k] = reader.swap(rules[k]);
             }
             return answer;
         }

@@ -523,6 +523,14 @@ public final class PromisesTest {
         due("y", tree.exactly(0, 1, 1, 1), 100);
         tree.days(1);
         law(tree, "e9(1=1)");
+        tree.plant(1, 10, 0, 9);
+        due("nine DRY DAYS", tree.exactly(1, 9, 1, -1), 1000000000000000000L);
+        due("eight are not enough", tree.exactly(1, 8, 1, -1), 0);
+        law(tree, "e0(1=1)");
+        tree.plant(1, 10, 10, 9);
+        due("nine DROWNED ones", tree.exactly(1, 9, 1, -1), 1000000000000000000L);
+        due("eight are not enough", tree.exactly(1, 8, 1, -1), 0);
+        law(tree, "e9(1=1)");
         tree.days(2);
         due("of a dead one", tree.exactly(0, 1, 1, -1), -1);
     }
@@ -643,6 +651,11 @@ public final class PromisesTest {
         // 5 3 1 0: by 2 CUPS for one that is less WET than 2 it lives on the third DAY
         tree.person(0, 10, 3);
         due("three DAYS", tree.ruleFor(0, 3, 1, 2, 0), 2);
+        // By one CUP a DAY only who never lets it fall below 23 keeps it
+        law(tree, "e1(f=24);e9(1=1)");
+        tree.plant(0, 24, 23, 1);
+        due("24", tree.ruleFor(0, 3, 1, 1, 0), 24);
+        law(tree, "e2(1=1)");
         // Too much drowns: two give 4 each, of 8 in all only 4 do not reach the POT of 7
         law(tree, "e0(1=1)");
         tree.plant(0, 7, 1, 1);
@@ -694,6 +707,10 @@ public final class PromisesTest {
         law(tree, "e1(f=10)");
         due("drowns never", tree.needs(0, 60), 0);
         due("nothing happens", tree.plantIs(0, 1), 2);
+        law(tree, "e1(1=1)");
+        tree.plant(0, 24, 0, 1);
+        due("all 24", tree.needs(0, 23), 24);
+        due("not by 24", tree.needs(0, 24), -2);
     }
 
     private static void week() {
@@ -708,6 +725,13 @@ public final class PromisesTest {
         for (int day = 0; day < 7; day++) {
             due("DAY " + day, tree.week(0, 1, day), row[day]);
         }
+        tree.days(1);
+        rule(tree, 0, "g2(q>1)");
+        due("CUPS given before count in q", tree.week(0, 1, 10), 4);
+        rule(tree, 0, "g2(1=1)");
+        tree.plant(0, 10, 1, 1);
+        due("each DAY", tree.week(0, 1, 10), 7);
+        due("WET", tree.week(0, 1, 11), 1);
         // The lowest two are 3 and 6: 6 gives 5 once it is 3 WET or less, 3 gives nothing
         tree = new LandingTree();
         law(tree, "e2(1=1)");
@@ -788,6 +812,15 @@ public final class PromisesTest {
         tree.days(60);
         due("all are dead", tree.spread(5, 10), -2);
         due("all are dead", tree.spread(5, 1), -2);
+        law(tree, "e1(1=1)");
+        tree.plant(1, 10, 3, 1);
+        tree.plant(3, 10, 1, 1);
+        int[] both = {0, 2, 0, 4};
+        for (int l = 0; l < 4; l++) {
+            due("PLANT " + l + " of 1 and 3", tree.spread(6, l), both[l]);
+        }
+        due("both as long", tree.spread(6, 10), 4);
+        tree.days(60);
         law(tree, "e0(1=1)");
         tree.plant(0, 4, 2, 1);
         due("drowns by it", tree.spread(2, 10), 0);
@@ -949,6 +982,9 @@ public final class PromisesTest {
         due("row 1", tree.alone(2, 1), 1);
         law(tree, "c500(p=0);c0-3(1=1);b5000(p=0);b99(1=1)");
         due("99 and 999 at most: 99 of 999, 0 of 99", tree.alone(2, 2), 9);
+        law(tree, "c10(1=1);b5000(1=1)");
+        due("999: 2 of 10 twice is enough", tree.alone(3, 2), 8);
+        law(tree, "c500(p=0);c0-3(1=1);b5000(p=0);b99(1=1)");
         due("0 waters nothing: PERSON 1 alone, or 0 alone", tree.alone(2, 0), 2);
         law(tree, "c5(d=1);b20(d=1)");
         due("on another DAY", tree.alone(2, 0), 4);
