@@ -1707,7 +1707,7 @@ public final class LandingTree {
             many = Math.min(m, MOST_ASKED);
             on.fillLowest(many, who);
             comings = WEEK_DAYS + 1;
-            go(on, book, 0, 0);
+            go(this, on, book, 0, 0);
             return comings <= WEEK_DAYS;
         }
 
@@ -1715,37 +1715,40 @@ public final class LandingTree {
             return best[day] < many ? who[best[day]] : NOT_EVEN_SO;
         }
 
+        private void takeRow(int came, int wetThen) {
+            comings = came;
+            wet = wetThen;
+            System.arraycopy(row, 0, best, 0, WEEK_DAYS);
+        }
+
         /** Rows are gone through from the greatest on: of those with as many comings the last one found is the least. */
-        private void go(Landing on, Book book, int day, int came) {
-            Plant is = on.plants[plant];
+        private static void go(Week of, Landing on, Book book, int day, int came) {
+            Plant is = on.plants[of.plant];
             if (day >= WEEK_DAYS) {
-                comings = came;
-                wet = is.wet;
-                System.arraycopy(row, 0, best, 0, WEEK_DAYS);
+                of.takeRow(came, is.wet);
                 return;
             }
-            levels[day].copy(is);
-            for (int place = many; place >= 0; place--) {
-                int then = came + (place < many ? 1 : 0);
-                if (then > comings) {
+            of.levels[day].copy(is);
+            for (int place = of.many; place >= 0; place--) {
+                boolean comes = place < of.many;
+                int then = came + (comes ? 1 : 0);
+                if (then > of.comings) {
                     continue;
                 }
-                Person comer = place < many ? on.people[who[place]] : null;
-                int given = comer == null ? 0 : comer.given;
-                if (comer != null) {
-                    on.giveTo(book, who[place], plant);
+                int who = comes ? of.who[place] : 0;
+                int given = on.people[who].given;
+                if (comes) {
+                    on.giveTo(book, who, of.plant);
                 }
-                on.endDay(book, plant, false);
+                on.endDay(book, of.plant, false);
                 on.day++;
-                row[day] = place;
+                of.row[day] = place;
                 if (!is.isDead()) {
-                    go(on, book, day + 1, then);
+                    go(of, on, book, day + 1, then);
                 }
                 on.day--;
-                is.copy(levels[day]);
-                if (comer != null) {
-                    comer.given = given;
-                }
+                is.copy(of.levels[day]);
+                on.people[who].given = given;
             }
         }
     }

@@ -1,23 +1,5 @@
 /** For each promise of the document: ordinary calls, the edges that it names, and wrong ones; reckoned by hand. */
-public final class PromisesTest {
-    private static final long NO_POT = -1000000000000L;
-
-    private static int wrong;
-    private static int promise;
-    private static int asked;
-
-    private static void due(String what, long got, long want) {
-        asked++;
-        if (got != want) {
-            wrong++;
-            System.out.println("promise " + promise + ", " + what + ": " + got + ", due is " + want);
-        }
-    }
-
-    private static void due(String what, boolean got, boolean want) {
-        due(what, got ? 1 : 0, want ? 1 : 0);
-    }
-
+public final class PromisesTest extends Calls {
     public static void main(String[] args) {
         Runnable[] all = {
             PromisesTest::aNewObject, PromisesTest::plant, PromisesTest::person, PromisesTest::card,
@@ -29,62 +11,11 @@ public final class PromisesTest {
             PromisesTest::whoDid, PromisesTest::can, PromisesTest::seed, PromisesTest::keep, PromisesTest::undo,
             PromisesTest::check, PromisesTest::count
         };
-        for (Runnable one : all) {
-            promise++;
-            one.run();
+        for (int i = 0; i < all.length; i++) {
+            about("promise " + (i + 1));
+            all[i].run();
         }
-        System.out.println(promise + " promises, " + asked + " answers, " + wrong + " not as due");
-        if (wrong != 0 || promise != 34) {
-            System.exit(1);
-        }
-    }
-
-    // ---- what the tests are told with
-
-    private static void feed(LandingTree tree, int... bytes) {
-        for (int from = 0; from < bytes.length; from += 20) {
-            int[] n = new int[5];
-            for (int i = 0; i < 20; i++) {
-                n[i / 4] = n[i / 4] << 8 | (from + i < bytes.length ? bytes[from + i] : 0);
-            }
-            tree.feed(n[0], n[1], n[2], n[3], n[4]);
-        }
-    }
-
-    private static int feed(LandingTree tree, String text) {
-        feed(tree, text.chars().toArray());
-        return text.length();
-    }
-
-    private static int law(LandingTree tree, String text) {
-        return tree.law(feed(tree, text));
-    }
-
-    private static int rule(LandingTree tree, int k, String text) {
-        return tree.rule(k, feed(tree, text));
-    }
-
-    private static int rota(LandingTree tree, int l, String text, int what) {
-        return tree.rota(l, feed(tree, text), what);
-    }
-
-    /** A PLANT of 10 CUPS, as WET as told, and a PERSON 0 that always comes. */
-    private static LandingTree landing(String law, String rule, int wet, int bears) {
-        LandingTree tree = new LandingTree();
-        law(tree, law);
-        rule(tree, 0, rule);
-        tree.plant(0, 10, wet, bears);
-        tree.person(0, 10, 0);
-        return tree;
-    }
-
-    /** What PERSON 0 would give by this RULE. */
-    private static int given(String rule) {
-        return landing("e1(1=1)", rule, 5, 3).gives(0, 0);
-    }
-
-    private static String times(int n, String text, String between) {
-        return String.join(between, java.util.Collections.nCopies(n, text));
+        end();
     }
 
     // ---- the promises
