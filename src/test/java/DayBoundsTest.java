@@ -4,6 +4,7 @@ public final class DayBoundsTest extends Calls {
     private static final int[] SEEDS = {25, 12, 1, 28, 15, 2, 33, 20, 7, 0};
 
     public static void main(String[] args) {
+        aNewObject();
         plants();
         pots();
         wets();
@@ -40,6 +41,20 @@ public final class DayBoundsTest extends Calls {
         law(tree, law);
         tree.plant(0, pot, wet, bears);
         return tree;
+    }
+
+    private static void aNewObject() {
+        sentence("No PLANTS, PEOPLE, RULES, LAW; THE SEED 1.");
+        LandingTree tree = new LandingTree();
+        due("no PLANTS", tree.count(1) + tree.count(2), 0);
+        due("no PEOPLE", tree.count(3), 0);
+        due("no RULES", tree.count(10) + tree.count(11) + tree.count(12) + tree.count(13), 0);
+        due("no LAW", tree.count(4), 0);
+        due("no tape", tree.count(5), 0);
+        due("THE SEED", tree.count(6), 1);
+        due("nothing to give", tree.days(60), 0);
+        due("no DRAWS", tree.count(6), 1);
+        due("THE DAY", tree.count(0), 60);
     }
 
     private static void plants() {
@@ -483,6 +498,7 @@ public final class DayBoundsTest extends Calls {
         for (int n : new int[] {0, -1, 61, Integer.MAX_VALUE}) {
             due(n + " DAYS", tree.tried(n, 0), -1);
         }
+        sentence("what 0 CUPS given, 1 that ran over");
         due("one", tree.tried(1, 0), 2);
         due("60", tree.tried(60, 20), 120);
         due("60", tree.tried(60, 27), 0);
@@ -688,6 +704,13 @@ public final class DayBoundsTest extends Calls {
         for (int what : new int[] {7, 8, 9, 14, 19, 28, 29, 38, 39, 48, 49, 50, 120, Integer.MAX_VALUE, Integer.MIN_VALUE}) {
             due("what " + what, tree.count(what), -1);
         }
+        sentence("4 CLAUSES of THE LAW, 5 bytes of the tape, 6 X");
+        law(tree, times(14, "e1(1=1)", ";"));
+        due("CLAUSES", tree.count(4), 14);
+        feed(tree, times(220, "x", ""));
+        due("bytes", tree.count(5), 220);
+        tree.seed(65535);
+        due("X", tree.count(6), 65535);
         sentence("0 THE DAY, 1 told PLANTS (bits), 2 dead ones (bits), 3 told PEOPLE (bits)");
         tree = new LandingTree();
         tree.plant(3, 4, 4, 1);

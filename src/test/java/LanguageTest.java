@@ -47,6 +47,7 @@ public final class LanguageTest {
         members();
         words(bare(source));
         lengths(source);
+        recursion(bare(source));
         System.out.println(wrong == 0 ? "the language is kept, as far as this test sees" : wrong + " faults");
         if (wrong != 0) {
             System.exit(1);
@@ -133,6 +134,17 @@ public final class LanguageTest {
             due(calls.group(), Set.of("max", "min", "abs", "bitCount", "fill", "arraycopy").contains(calls.group(2)));
         }
         due("signs 1 to 127", source.chars().allMatch(c -> c < 128));
+    }
+
+    /** A method that calls itself by its bare name is private, and static but for Reader's, which call one another. */
+    private static void recursion(String source) {
+        Matcher heads = Pattern.compile("\\n( {4}| {8})((?:private |static |public )*)[\\w\\[\\]]+ (\\w+)\\([^)]*\\) \\{\\n").matcher(source);
+        while (heads.find()) {
+            String body = source.substring(heads.end(), source.indexOf("\n" + heads.group(1) + "}", heads.end()) + 1);
+            boolean calls = Pattern.compile("(?<![\\w.])" + heads.group(3) + "\\(").matcher(body).find();
+            boolean can = heads.group(2).contains("private static") || heads.group(3).equals("piece");
+            due(heads.group(3) + " calls itself", !calls || can);
+        }
     }
 
     private static void lengths(String source) {

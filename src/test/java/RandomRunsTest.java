@@ -30,18 +30,34 @@ public final class RandomRunsTest {
     }
 
     private boolean run() {
-        int many = 60 + below(200);
+        int many = 50 + below(200);
         for (int i = 0; i < 12; i++) {
             if (!begin(i)) {
                 return false;
             }
         }
+        if (chance(2) && !untilLate()) {
+            return false;
+        }
+        many += calls;
         while (calls < many) {
             if (!oneCall()) {
                 return false;
             }
         }
         return wholeState();
+    }
+
+    /** Up to the last DAYS, behind which no ROTA is read and no DAY goes by. */
+    private boolean untilLate() {
+        int last = 9850 + below(160);
+        for (int i = 0; i < 200 && model.now.day < Math.min(last, 9999); i++) {
+            int n = Math.min(60, last - model.now.day);
+            if (!same("days(" + n + ")", tree.days(n), model.days(n))) {
+                return false;
+            }
+        }
+        return plant() && plant() && plant();
     }
 
     private int below(int n) {

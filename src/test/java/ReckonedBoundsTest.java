@@ -223,6 +223,7 @@ public final class ReckonedBoundsTest extends Calls {
         due("the fewest: nobody", tree.chance(0, 1, 3, 0), 0);
         due("sure", tree.chance(0, 1, 3, 1), 10000);
         due("tenths stay", tree.count(20) + tree.count(23), 4);
+        sentence("AT WHAT CHANCE, likewise, what 0 tenths, 1 how likely it lives then; NONE: no such ones.");
         for (int what : new int[] {-1, 2, 10, Integer.MIN_VALUE}) {
             due("what " + what, tree.chance(0, 1, 1, what), -1);
         }
@@ -261,6 +262,7 @@ public final class ReckonedBoundsTest extends Calls {
         due("it dies whoever comes", tree.toAsk(2, 1, 2, 0), -2);
         due("never", tree.toAsk(2, 1, 2, 1), 0);
         due("tenths stay", tree.count(23) * 100 + tree.count(25), 1010);
+        sentence("WHOM TO ASK, likewise, what 0 the PERSON (-2: nobody), 1 how likely it lives then; NONE: no such ones.");
         for (int what : new int[] {-1, 2, 10, Integer.MAX_VALUE}) {
             due("what " + what, tree.toAsk(2, 1, 1, what), -1);
         }
@@ -306,6 +308,10 @@ public final class ReckonedBoundsTest extends Calls {
         tree.person(1, 10, 0);
         due("nine DAYS", tree.few(0, 9, 1, 10), 1);
         due("four DAYS of three", tree.few(0, 4, 3, 10), 1);
+        sentence("HOW FEW, likewise, by tenths (0 to 10): how many; -2: not by m; NONE: no such ones.");
+        due("0 tenths", tree.few(0, 1, 1, 0), 0);
+        due("10 tenths", tree.few(0, 1, 1, 10), 1);
+        due("not by m", rule(tree, 0, "g1(d=1)") * tree.few(0, 1, 3, 10), -2);
         due("-1 tenths", tree.few(0, 1, 1, -1), -1);
         due("11 tenths", tree.few(0, 1, 1, 11), -1);
     }
@@ -324,6 +330,7 @@ public final class ReckonedBoundsTest extends Calls {
         due("of 4: 4 WET, no more than that", tree.pot(0, 1, 1, 4), -60);
         law(tree, "e1(f=4);e9(1=1)");
         due("of 4: 4 WET, 3 behind it", tree.pot(0, 1, 1, 4), 100 - 40);
+        sentence("A BIGGER POT (4 to 24; WET at most that) of a told PLANT, likewise; -1000000000000: no such ones.");
         due("3", tree.pot(0, 1, 1, 3), NO_POT);
         due("25", tree.pot(0, 1, 1, 25), NO_POT);
         due("-4", tree.pot(0, 1, 1, -4), NO_POT);
@@ -362,6 +369,7 @@ public final class ReckonedBoundsTest extends Calls {
         due("by all of them", tree.ruleFor(0, 1, 3, 1, 1), 7500);
         due("less WET than 3", tree.ruleFor(0, 1, 3, 1, 0), 3);
         due("each asked then", tree.ruleFor(0, 1, 3, 9, 0), 3);
+        sentence("A RULE FOR EACH, likewise, by CUPS (1 to 9), what 0 x, 1 how likely it lives then; NONE: no such ones.");
         for (int cups : new int[] {-1, 0, 10, Integer.MAX_VALUE}) {
             due(cups + " CUPS", tree.ruleFor(0, 1, 1, cups, 0), -1);
         }
@@ -395,6 +403,7 @@ public final class ReckonedBoundsTest extends Calls {
         due("never either way: the lowest", tree.movesOut(0, 1, 2, 0), 2);
         due("not the one without whom it lives likelier", drowner().movesOut(0, 1, 2, 0), 3);
         due("never", drowner().movesOut(0, 1, 2, 1), 0);
+        sentence("WHO MOVES OUT, likewise as in exactly(), what 0 the PERSON, 1 how likely it lives then; NONE: no such ones.");
         for (int what : new int[] {-1, 2, 10, Integer.MIN_VALUE}) {
             due("what " + what, tree.movesOut(0, 1, 1, what), -1);
         }
@@ -525,6 +534,7 @@ public final class ReckonedBoundsTest extends Calls {
         due("nobody", tree.week(0, 1, 0), -3);
         due("nobody", tree.week(0, 1, 6), -3);
         due("not DRY till it dies", driedOnce().week(0, 1, 10), -2);
+        sentence("THE WEEK of a told PLANT that is not dead by m PEOPLE, what 10 how many comings, 11 WET in the end");
         due("each DAY", law(tree, "e9(1=1)") * tree.week(0, 1, 10), 7);
         due("WET in the end", tree.week(0, 1, 11), 1);
         for (int m : new int[] {-1, 0, 2, 3, 4, Integer.MAX_VALUE}) {
@@ -626,6 +636,7 @@ public final class ReckonedBoundsTest extends Calls {
         due("24 cups: 24 of 25", tree.spread(24, 10), 23);
         due("all of them on the one", tree.spread(24, 3), 24);
         due("0: not told", tree.spread(24, 0) + tree.spread(24, 1) + tree.spread(24, 2), 0);
+        sentence("A SPREAD of cups, what 10 how long the one lasts that lasts least");
         tree.plant(0, 6, 5, 1);
         due("6 hold in it", tree.spread(24, 10), 5);
         due("what is needed", tree.spread(6, 10), 5);
@@ -681,13 +692,16 @@ public final class ReckonedBoundsTest extends Calls {
         due("n", tree.spread(7, 10), 0);
         tree.person(4, 0, 0);
         due("n is one more", tree.spread(7, 10), 60);
-        tree = new LandingTree();
-        law(tree, "e1(1=1)");
-        tree.plant(0, 24, 2, 1);
-        tree.plant(2, 24, 2, 1);
-        tree.plant(3, 24, 20, 1);
-        due("no more than all", tree.spread(3, 10), 2);
-        due("no more than all", tree.spread(3, 0) * 100 + tree.spread(3, 2) * 10 + tree.spread(3, 3), 111);
+        for (int l = 0; l < 2; l++) {
+            tree = new LandingTree();
+            law(tree, "e1(1=1)");
+            tree.plant(l, 24, 2, 1);
+            tree.plant(2, 24, 2, 1);
+            tree.plant(3, 24, 20, 1);
+            due("24 in all", tree.spread(24, 10), 13);
+            due("no more than all", tree.spread(3, 10), 2);
+            due("no more than all", tree.spread(3, l) * 100 + tree.spread(3, 2) * 10 + tree.spread(3, 3), 111);
+        }
     }
 
     private static void late() {

@@ -270,6 +270,9 @@ public final class TapeBoundsTest extends Calls {
     }
 
     private static void rotaRefused() {
+        sentence("A ROTA by the first n bytes of the tape (1 to 90; empty then) for a told PLANT that is not dead");
+        due("one byte", rota(seven(), 0, "a", 0), -1001);
+        due("90 bytes", rota(seven(), 0, times(10, "abcdefg", "/") + "/" + times(10, "a", ""), 0), -6087);
         sentence("NONE: no such ones, it has not so many (the tape stays), THE DAY is above 9915.");
         LandingTree tree = seven();
         tree.plant(2, 4, 4, 1);
@@ -446,6 +449,9 @@ public final class TapeBoundsTest extends Calls {
     }
 
     private static void whoDidAsked() {
+        sentence("WHO DID IT by the first n + 1 bytes of the tape (WET ahead, then at the end of each DAY; empty then)");
+        due("the first is ahead of it", who(new LandingTree(), 1, 9, 0, 0, 0, 9), 1);
+        due("not the other way", who(new LandingTree(), 1, 9, 0, 0, 9, 0), 0);
         sentence("by PEOPLE (bits below 256, 1 to 5 of them), CUPS each (1 to 9), CUPS that go (0 to 9), what 0 how many rows");
         LandingTree tree = new LandingTree();
         feed(tree, 3, 3, 3, 3, 3, 3, 3, 3);
@@ -465,6 +471,8 @@ public final class TapeBoundsTest extends Calls {
             due("what " + what, tree.whoDid(1, 1, 1, 1, what), -1);
         }
         due("the tape stays", tree.count(5), 20);
+        sentence("1 the first DAY for which none fits (-2: none), 2 who must have given; NONE: no such ones, it has not so many (the "
+            + "tape stays).");
         due("six DAYS", tree.whoDid(6, 1, 1, 1, 0), 1);
         due("empty then", tree.count(5), 0);
         due("it has not so many", tree.whoDid(1, 1, 1, 1, 0), -1);
@@ -510,6 +518,10 @@ public final class TapeBoundsTest extends Calls {
     }
 
     private static void cansAsked() {
+        sentence("A CAN by the first m bytes of the tape (tenths of each, 0 to 10; m 1 to 6; empty then)");
+        due("0 tenths", can(new LandingTree(), 9, 0, 0, 0, 0, 0, 0, 0, 0), 0);
+        due("10 tenths", can(new LandingTree(), 9, 0, 0, 10, 10, 10, 10, 10, 10), 45);
+        due("11 tenths", can(new LandingTree(), 9, 0, 0, 11), -2);
         sentence("CUPS (1 to 9), need (0 to 60), what 0 above, 1 below the line, without a common divisor; -2: a byte above 10; -1 also: "
             + "no such ones, it has not so many (the tape stays).");
         LandingTree tree = new LandingTree();

@@ -73,11 +73,22 @@ public final class TextBoundsTest extends Calls {
         due("empty then, all of it", tree.count(5), 0);
         feed(tree, "e1(1=1);h1(1=1)     ");
         due("just as many as there are", tree.law(20), -1015);
+        sentence("NONE: no such n, it has not so many (the tape stays).");
         feed(tree, "e1(1=1);h1(1=1)     ");
         due("one more than there are", tree.law(21), -1);
+        due("the tape stays", tree.count(5), 20);
+        due("0", tree.law(0), -1);
+        due("201", tree.law(201), -1);
+        due("the tape stays", tree.count(5), 20);
         due("just the first", tree.law(7), 1);
         due("not what comes behind them", tree.count(4), 1);
+        due("none at all", tree.law(1), -1);
+        sentence("RULE k likewise.");
         feed(tree, "g1(1=1);");
+        due("0", tree.rule(0, 0), -1);
+        due("201", tree.rule(0, 201), -1);
+        due("21", tree.rule(0, 21), -1);
+        due("the tape stays", tree.count(5), 20);
         due("one byte", tree.rule(0, 1), -1001);
         due("empty then", tree.count(5), 0);
     }
